@@ -175,7 +175,9 @@ public final class BonusLadder {
             return NONE;
         }
         keepForUndo();
-        return life.takeLoss(terms, s, told);
+        int paid = life.takeLoss(terms, s, told);
+        life.passChance(terms);
+        return paid;
     }
 
     public int live(int n, int rule, int v, int seed) {
@@ -324,13 +326,18 @@ public final class BonusLadder {
         if (!isAsked(l, c)) {
             return NONE;
         }
-        return l > 0 && costs.buys(l, c) ? 1 : 0;
+        if (l == 0) {
+            return 0;
+        }
+        costs.learn(l - 1);
+        return costs.buys(l, c) ? 1 : 0;
     }
 
     public long ahead(int l, int c, int k, int t, boolean guard) {
         if (!isState(l, c, k, t)) {
             return NONE;
         }
+        costs.learn(l - 1);
         costs.lookAhead(l, c, k, t, guard);
         return costs.aheadOf(k, t, guard);
     }
@@ -339,6 +346,7 @@ public final class BonusLadder {
         if (!isState(l, c, k, t) || k == terms.chances()) {
             return NONE;
         }
+        costs.learn(l - 1);
         costs.lookAhead(l, c, k, t, guard);
         return costs.leastTold(k, t, guard);
     }
@@ -347,6 +355,7 @@ public final class BonusLadder {
         if (!isState(l, c, k, t) || k == terms.chances()) {
             return NONE;
         }
+        costs.learn(l - 1);
         costs.lookAhead(l, c, k, t, guard);
         int bits = 0;
         for (int s = 0; s < terms.sorts; s++) {
@@ -361,6 +370,7 @@ public final class BonusLadder {
         if (!isState(l, c, k, t) || k == terms.chances() || !terms.hasSort(s)) {
             return NO_NUMBER;
         }
+        costs.learn(l - 1);
         costs.lookAhead(l, c, k, t, guard);
         return costs.gainOf(k, t, guard, s);
     }
@@ -370,6 +380,7 @@ public final class BonusLadder {
             return NONE;
         }
         for (int l = 1; l <= MOST_YEARS; l++) {
+            costs.learn(l - 1);
             costs.lookAhead(l, c, 0, 0, false);
             if (costs.gainOf(0, 0, false, s) <= 0) {
                 return l;
@@ -549,6 +560,7 @@ public final class BonusLadder {
             return NONE;
         }
         int t = Math.min(2, life.counted);
+        costs.learn(l - 1);
         costs.lookAhead(l, life.place, life.gone, t, life.guarded);
         return costs.gainOf(life.gone, t, life.guarded, s) > 0 ? 1 : 0;
     }
@@ -617,7 +629,7 @@ public final class BonusLadder {
         if (what < 0 || what > 3 || !canLive(n, rule, v)) {
             return NONE;
         }
-        int paid = liveOtherwise(n, rule, v, seed);
+        int paid = liveByDraws(lifeElsewhere(), n, rule, v, seed);
         switch (what) {
             case 0:
                 return paid;
@@ -635,9 +647,9 @@ public final class BonusLadder {
             return NONE;
         }
         int best = BY_COST;
-        int least = liveOtherwise(n, BY_COST, 0, seed);
+        int least = liveByDraws(lifeElsewhere(), n, BY_COST, 0, seed);
         for (int rule = ALL_TOLD; rule <= ALL_BORNE; rule++) {
-            int paid = liveOtherwise(n, rule, 0, seed);
+            int paid = liveByDraws(lifeElsewhere(), n, rule, 0, seed);
             if (paid < least) {
                 least = paid;
                 best = rule;
@@ -654,6 +666,7 @@ public final class BonusLadder {
         for (int fee = CLASS_HIGH[FEE]; fee >= 0; fee--) {
             otherTerms.setPart(c, FEE, fee);
             trial.look(otherTerms, true);
+            trial.learn(l - 1);
             if (trial.buys(l, c)) {
                 return fee;
             }
@@ -694,6 +707,7 @@ public final class BonusLadder {
             return NONE;
         }
         page.length = 0;
+        costs.learn(l - 1);
         for (int c = 0; c < terms.classes; c++) {
             boolean guard = costs.buys(l, c);
             int least = costs.leastTold(0, 0, guard);
@@ -865,16 +879,19 @@ public final class BonusLadder {
         System.arraycopy(waysThen, 0, waysNow, 0, MOST_CLASSES);
     }
 
-    /** Leaves in otherLife what a life by draws comes to from the class as it is. */
-    private int liveOtherwise(int n, int rule, int v, int seed) {
+    /** A life of nothing but the class as it is, for what does not happen. */
+    private Life lifeElsewhere() {
         otherLife.clear();
         otherLife.place = life.place;
-        return liveByDraws(otherLife, n, rule, v, seed);
+        return otherLife;
     }
 
     private int liveByDraws(Life who, int n, int rule, int v, int seed) {
         int before = who.allPaid();
         draws.seed = seed;
+        if (rule == BY_COST) {
+            costs.learn(n);
+        }
         for (int left = n; left > 0; left--) {
             liveOneYear(who, left, rule, v);
         }
@@ -890,9 +907,8 @@ public final class BonusLadder {
             if (draws.next(DOZEN) < terms.odds()) {
                 int s = draws.nextSort(terms);
                 who.takeLoss(terms, s, isTold(who, rule, v, s));
-            } else {
-                who.passChance(terms);
             }
+            who.passChance(terms);
         }
     }
 
@@ -1084,7 +1100,7 @@ public final class BonusLadder {
             return paidInYear;
         }
 
-        /** Answers how many chances are left. */
+        /** A chance is gone, whatever came at it; answers how many are left. */
         int passChance(Terms terms) {
             gone++;
             int left = terms.chances() - gone;
@@ -1094,7 +1110,7 @@ public final class BonusLadder {
             return left;
         }
 
-        /** Answers what is paid. */
+        /** A loss comes at a chance, which is yet to go; answers what is paid. */
         int takeLoss(Terms terms, int s, boolean isTold) {
             putEntry(book, told + borne, ended, s, isTold ? 1 : 0);
             int paid = isTold ? terms.ownOf(s) : terms.sortPart(s, SIZE);
@@ -1107,7 +1123,6 @@ public final class BonusLadder {
                 borne++;
                 forBorne += paid;
             }
-            passChance(terms);
             return paid;
         }
 
@@ -1201,6 +1216,66 @@ public final class BonusLadder {
         }
     }
 
+    /** What a chance may bring, in mills, and what is done about it. */
+    private static final class Losses {
+        private int sorts;
+        private long odds;
+        private long allWeights;
+        private boolean atWorst;
+        private final long[] sizes = new long[MOST_SORTS];
+        private final long[] owns = new long[MOST_SORTS];
+        private final long[] weights = new long[MOST_SORTS];
+        /** BY_COST, ALL_TOLD or ALL_BORNE, for each sort. */
+        private final int[] choices = new int[MOST_SORTS];
+
+        void take(Terms terms, int thumb, int limit, boolean worst) {
+            sorts = terms.sorts;
+            odds = terms.odds();
+            allWeights = terms.allWeights();
+            atWorst = worst;
+            for (int s = 0; s < sorts; s++) {
+                int size = terms.sortPart(s, SIZE);
+                sizes[s] = (long) MILL * size;
+                owns[s] = (long) MILL * terms.ownOf(s);
+                weights[s] = terms.sortPart(s, WEIGHT);
+                choices[s] = thumb;
+                if (thumb == ABOVE_LIMIT) {
+                    choices[s] = size > limit ? ALL_TOLD : ALL_BORNE;
+                }
+            }
+        }
+
+        /** By what comes behind it: if no loss is told at it (still), if one is. */
+        long chanceCost(long still, long told) {
+            long sum = 0;
+            long most = odds < DOZEN ? still : 0;
+            for (int s = 0; s < sorts; s++) {
+                long found = lossCost(s, still, told);
+                sum += weights[s] * found;
+                most = Math.max(most, found);
+            }
+            long all = DOZEN * allWeights;
+            if (odds == 0 || all <= 0) {
+                return still;
+            }
+            return atWorst ? most : ((DOZEN - odds) * allWeights * still + odds * sum) / all;
+        }
+
+        /** What a loss of a sort costs less by its own part. */
+        long savedIfTold(int s) {
+            return sizes[s] - owns[s];
+        }
+
+        private long lossCost(int s, long still, long told) {
+            long ifTold = owns[s] + told;
+            long ifBorne = sizes[s] + still;
+            if (choices[s] == BY_COST) {
+                return Math.min(ifTold, ifBorne);
+            }
+            return choices[s] == ALL_TOLD ? ifTold : ifBorne;
+        }
+    }
+
     /** One ladder looked at from the end, for one car or for two that are joined. */
     private static final class Outlook {
         private Terms terms;
@@ -1212,8 +1287,7 @@ public final class BonusLadder {
         int hundredths;
         private int known;
         private int chances;
-        private long odds;
-        private long weights;
+        private final Losses losses = new Losses();
         /** Cost by years to go and class; those with no years to go stay 0. */
         private final long[] cost = new long[(MOST_YEARS + 1) * MOST_CLASSES];
         /** Cost ahead of each chance of the year last looked at, by chances gone, losses that count, guard. */
@@ -1237,9 +1311,47 @@ public final class BonusLadder {
             known = 0;
         }
 
+        /** Learns the costs with up to so many years to go. */
+        void learn(int l) {
+            if (known == 0) {
+                chances = terms.chances() * cars;
+                losses.take(terms, thumb, limit, atWorst);
+            }
+            for (int y = known + 1; y <= l; y++) {
+                for (int c = 0; c < terms.classes; c++) {
+                    lookAhead(y, c, 0, 0, withGuards);
+                    cost[y * MOST_CLASSES + c] = premiumPaid(c) + costBehindPremium(c);
+                }
+                known = y;
+            }
+        }
+
         long costOf(int l, int c) {
             learn(l);
             return cost[l * MOST_CLASSES + c];
+        }
+
+        /**
+         * Reckons what lies ahead of each chance that can follow upon such a one; the costs with a year less must have
+         * been learnt. Each chance adds at most one loss that counts, and none while a guard is there.
+         */
+        void lookAhead(int l, int c, int firstK, int firstT, boolean guard) {
+            for (int t = 0; t < COUNTS; t++) {
+                long then = cost[(l - 1) * MOST_CLASSES + terms.next(c, t)];
+                ahead[index(chances, t, false)] = then;
+                ahead[index(chances, t, true)] = then;
+            }
+            for (int k = chances - 1; k >= firstK; k--) {
+                int lastT = Math.min(2, firstT + k - firstK);
+                for (int t = firstT; t <= lastT; t++) {
+                    ahead[index(k, t, false)] =
+                            losses.chanceCost(ahead[index(k + 1, t, false)], ahead[toldIndex(k, t, false)]);
+                }
+                if (guard) {
+                    ahead[index(k, firstT, true)] =
+                            losses.chanceCost(ahead[index(k + 1, firstT, true)], ahead[toldIndex(k, firstT, true)]);
+                }
+            }
         }
 
         /** Whether a guard is bought; leaves what lies ahead of each chance of such a year, with it or without. */
@@ -1248,19 +1360,12 @@ public final class BonusLadder {
             return guardPays(c);
         }
 
-        /** Learns what lies ahead of each chance that can follow upon such a one. */
-        void lookAhead(int l, int c, int k, int t, boolean guard) {
-            learn(l - 1);
-            fillYear(l, c, k, t, guard);
-        }
-
         long aheadOf(int k, int t, boolean guard) {
             return ahead[index(k, t, guard)];
         }
 
         long gainOf(int k, int t, boolean guard, int s) {
-            long saved = (long) MILL * (terms.sortPart(s, SIZE) - terms.ownOf(s));
-            return saved - dearerIfTold(k, t, guard);
+            return losses.savedIfTold(s) - dearerIfTold(k, t, guard);
         }
 
         int leastTold(int k, int t, boolean guard) {
@@ -1276,27 +1381,11 @@ public final class BonusLadder {
             return ahead[toldIndex(k, t, guard)] - ahead[index(k + 1, t, guard)];
         }
 
-        private void learn(int l) {
-            if (known == 0) {
-                chances = terms.chances() * cars;
-                odds = terms.odds();
-                weights = terms.allWeights();
-            }
-            for (int y = known + 1; y <= l; y++) {
-                for (int c = 0; c < terms.classes; c++) {
-                    cost[y * MOST_CLASSES + c] = yearCost(y, c);
-                }
-                known = y;
-            }
-        }
-
-        private long yearCost(int l, int c) {
-            fillYear(l, c, 0, 0, withGuards);
-            long rest = ahead[index(0, 0, false)];
+        private long costBehindPremium(int c) {
             if (withGuards && guardPays(c)) {
-                rest = (long) MILL * terms.part(c, FEE) + ahead[index(0, 0, true)];
+                return (long) MILL * terms.part(c, FEE) + ahead[index(0, 0, true)];
             }
-            return premiumPaid(c) + rest;
+            return ahead[index(0, 0, false)];
         }
 
         private boolean guardPays(int c) {
@@ -1306,67 +1395,6 @@ public final class BonusLadder {
         private long premiumPaid(int c) {
             long whole = (long) MILL * cars * terms.part(c, PREMIUM);
             return whole - whole * hundredths / 100;
-        }
-
-        /** Only states that can follow upon the first one: each chance adds at most one loss that counts. */
-        private void fillYear(int l, int c, int firstK, int firstT, boolean guard) {
-            for (int t = 0; t < COUNTS; t++) {
-                long then = cost[(l - 1) * MOST_CLASSES + terms.next(c, t)];
-                ahead[index(chances, t, false)] = then;
-                ahead[index(chances, t, true)] = then;
-            }
-            for (int k = chances - 1; k >= firstK; k--) {
-                int lastT = Math.min(2, firstT + k - firstK);
-                for (int t = firstT; t <= lastT; t++) {
-                    ahead[index(k, t, false)] = chanceCost(k, t, false);
-                }
-                if (guard) {
-                    ahead[index(k, firstT, true)] = chanceCost(k, firstT, true);
-                }
-            }
-        }
-
-        private long chanceCost(int k, int t, boolean guard) {
-            long still = ahead[index(k + 1, t, guard)];
-            long told = ahead[toldIndex(k, t, guard)];
-            if (atWorst) {
-                return worstCost(still, told);
-            }
-            long all = DOZEN * weights;
-            if (all <= 0) {
-                return still;
-            }
-            long sum = 0;
-            for (int s = 0; s < terms.sorts; s++) {
-                sum += terms.sortPart(s, WEIGHT) * lossCost(s, still, told);
-            }
-            return ((DOZEN - odds) * weights * still + odds * sum) / all;
-        }
-
-        private long worstCost(long still, long told) {
-            long most = odds < DOZEN ? still : 0;
-            if (odds > 0) {
-                for (int s = 0; s < terms.sorts; s++) {
-                    most = Math.max(most, lossCost(s, still, told));
-                }
-            }
-            return most;
-        }
-
-        private long lossCost(int s, long still, long told) {
-            int size = terms.sortPart(s, SIZE);
-            long ifBorne = (long) MILL * size + still;
-            long ifTold = (long) MILL * terms.ownOf(s) + told;
-            switch (thumb) {
-                case ALL_TOLD:
-                    return ifTold;
-                case ALL_BORNE:
-                    return ifBorne;
-                case ABOVE_LIMIT:
-                    return size > limit ? ifTold : ifBorne;
-                default:
-                    return Math.min(ifTold, ifBorne);
-            }
         }
 
         private static int index(int k, int t, boolean guard) {
@@ -1384,8 +1412,10 @@ public final class BonusLadder {
         private long[] now = new long[MOST_CLASSES * MOST_CLASSES];
         private long[] then = new long[MOST_CLASSES * MOST_CLASSES];
         private final long[] ahead = new long[(MOST_CHANCES + 1) * COUNTS * COUNTS];
+        private final Losses losses = new Losses();
 
         long costOf(Terms terms, int l, int a, int b) {
+            losses.take(terms, BY_COST, 0, false);
             for (int i = 0; i < MOST_CLASSES * MOST_CLASSES; i++) {
                 now[i] = 0;
             }
@@ -1402,47 +1432,36 @@ public final class BonusLadder {
             for (int a = 0; a < terms.classes; a++) {
                 // a loss of either car can be told for either, so it is alike which car is the first
                 for (int b = a; b < terms.classes; b++) {
-                    long found = yearCost(terms, a, b);
+                    int premiums = terms.part(a, PREMIUM) + terms.part(b, PREMIUM);
+                    long found = (long) MILL * premiums + costBehindPremiums(terms, a, b);
                     now[a * MOST_CLASSES + b] = found;
                     now[b * MOST_CLASSES + a] = found;
                 }
             }
         }
 
-        private long yearCost(Terms terms, int a, int b) {
+        private long costBehindPremiums(Terms terms, int a, int b) {
             int chances = 2 * terms.chances();
             for (int t = 0; t < COUNTS; t++) {
                 for (int u = 0; u < COUNTS; u++) {
                     ahead[index(chances, t, u)] = then[terms.next(a, t) * MOST_CLASSES + terms.next(b, u)];
                 }
             }
-            int weights = terms.allWeights();
             for (int k = chances - 1; k >= 0; k--) {
                 for (int t = 0; t <= Math.min(2, k); t++) {
                     for (int u = 0; u <= Math.min(2, k - t); u++) {
-                        ahead[index(k, t, u)] = chanceCost(terms, weights, k, t, u);
+                        ahead[index(k, t, u)] = losses.chanceCost(ahead[index(k + 1, t, u)], toldCost(k, t, u));
                     }
                 }
             }
-            return (long) MILL * (terms.part(a, PREMIUM) + terms.part(b, PREMIUM)) + ahead[index(0, 0, 0)];
+            return ahead[index(0, 0, 0)];
         }
 
-        private long chanceCost(Terms terms, long weights, int k, int t, int u) {
-            long still = ahead[index(k + 1, t, u)];
+        /** A loss is told for the car for which it costs less then. */
+        private long toldCost(int k, int t, int u) {
             long forFirst = ahead[index(k + 1, Math.min(2, t + 1), u)];
             long forSecond = ahead[index(k + 1, t, Math.min(2, u + 1))];
-            long told = Math.min(forFirst, forSecond);
-            long all = DOZEN * weights;
-            if (all <= 0) {
-                return still;
-            }
-            long sum = 0;
-            for (int s = 0; s < terms.sorts; s++) {
-                long ifBorne = (long) MILL * terms.sortPart(s, SIZE) + still;
-                long ifTold = (long) MILL * terms.ownOf(s) + told;
-                sum += terms.sortPart(s, WEIGHT) * Math.min(ifBorne, ifTold);
-            }
-            return ((DOZEN - terms.odds()) * weights * still + terms.odds() * sum) / all;
+            return Math.min(forFirst, forSecond);
         }
 
         private static int index(int k, int t, int u) {

@@ -338,6 +338,11 @@ public final class PromiseTest {
         due.is("50: a sure loss, told", sure.would(2, 1, 0, 9, 0), 100);
         due.is("50: a sure loss, borne", sure.would(2, 2, 0, 9, 0), 2);
         due.is("50: a sure loss, behind a guard without a fee", sure.would(2, 0, 0, 9, 0), 0);
+        // seed 3 brings sorts 1, 1, 0: behind two that count the third, small one is told too
+        BonusLadder third = Due.told("class 0 0 1 2 99;class 10 1 1 1 99;class 100 2 2 2 99;loss 50 1;loss 500 1;"
+                + "chances 3;odds 12;own 0;");
+        due.is("50: behind two that count", third.would(2, 0, 0, 3, 0), 100);
+        due.is("50: all three are told", third.would(1, 0, 0, 3, 1), 3);
         // seed -7 brings no loss in two years: the best buys a guard for nothing
         BonusLadder luck = Due.told(THREE_STEPS);
         luck.move(2);
@@ -514,6 +519,11 @@ public final class PromiseTest {
         due.is("26: nothing to lose", x.least(1, 2, 0, 0, false), 2);
         due.is("26: none", Due.told(CLIFF).least(20, 0, 0, 0, false), -2);
         due.is("26: far up", Due.told(CLIFF).least(11, 0, 0, 0, false), 9990);
+        BonusLadder edge = Due.told(CLIFF);
+        edge.rule(2, 8);
+        due.is("26: the last that there is", edge.least(11, 0, 0, 0, false), 9999);
+        edge.rule(2, 9);
+        due.is("26: one beyond", edge.least(11, 0, 0, 0, false), -2);
         due.is("27: tells", x.tells(2, 2, 0, 0, false), 2);
         due.is("27: with a guard", x.tells(2, 2, 0, 0, true), 3);
         due.is("28: gain", x.gain(2, 2, 0, 0, false, 0), -6000);
@@ -717,6 +727,8 @@ public final class PromiseTest {
         due.is("49: all own", x.bestOwn(70, 1, 2), 99);
         due.is("49: none own", x.bestOwn(69, 1, 2), 0);
         due.is("49: at no price", x.bestOwn(0, 1, 2), 0);
+        // a year costs own times 83 and a third, cut; less 84 for each: 66 less from 98 on
+        due.is("49: of several the least", Due.told("class 0 0 0 0 99;loss 999 1;chances 1;odds 1;").bestOwn(84, 1, 0), 98);
         due.is("49: no years", x.bestOwn(9999, 0, 2), 0);
         due.is("49: price below 0", x.bestOwn(-1, 1, 2), NONE);
         due.is("49: price too high", x.bestOwn(10000, 1, 2), NONE);
