@@ -14,6 +14,12 @@ public final class CostEdgeTest {
     private static final String RING = "class 8 1 7 0 0;class 7 2 7 1 0;class 6 3 7 2 0;class 5 4 7 3 0;class 4 5 7 4 0;"
             + "class 3 6 7 5 0;class 2 7 7 6 0;class 1 0 7 7 0;loss 1 1;chances 1;odds 6;";
 
+    /** In class 1 a loss is better borne (a third each year, cut), in class 2 it is told for nothing. */
+    private static final String FINE = "class 0 2 1 1 99;class 0 1 3 3 99;class 0 2 2 2 99;class 999 3 3 3 99;"
+            + "loss 1 1;chances 1;odds 4;own 0;";
+    /** Half of the chances bring a loss; one that counts costs 100 with two years to go. */
+    private static final String HALF = "class 0 0 1 1 10;class 100 1 1 1 9;loss 500 1;chances 2;odds 6;own 0;";
+
     private static final Due due = new Due();
 
     private CostEdgeTest() {
@@ -23,7 +29,9 @@ public final class CostEdgeTest {
         noYears();
         cut();
         guardIfLess();
+        guardThereYet();
         toldIfLess();
+        byOneThousandth();
         ahead();
         least();
         tells();
@@ -136,7 +144,51 @@ public final class CostEdgeTest {
         due.is("25: without one counts, the other does harm", many.ahead(2, 0, 1, 0, false), 100000);
     }
 
+    /** Of losses TOLD all but the first COUNT; while nothing comes, or what comes is BORNE, the GUARD is there yet. */
+    private static void guardThereYet() {
+        BonusLadder x = Due.told(HALF);
+        due.is("25: the last chance without", x.ahead(2, 0, 1, 0, false), 50000);
+        due.is("25: the last chance with", x.ahead(2, 0, 1, 0, true), 0);
+        due.is("25: one counts", x.ahead(2, 0, 1, 1, false), 100000);
+        due.is("25: half the guard is there yet, half it is gone", x.ahead(2, 0, 0, 0, true), 25000);
+        due.is("25: without", x.ahead(2, 0, 0, 0, false), 75000);
+        due.is("24: it is bought", x.guards(2, 0), 1);
+        due.is("23: the fee and what lies ahead", x.cost(2, 0), 35000);
+        due.is("31: without", x.bare(2, 0), 75000);
+        due.is("28: to tell takes the guard away", x.gain(2, 0, 0, 0, true, 0), 450000);
+        x.set(0, 4, 50);
+        due.is("24: alike", x.guards(2, 0), 0);
+        due.is("23: alike", x.cost(2, 0), 75000);
+        x.sort(0, 0, 40);
+        due.is("25: borne the guard is there yet", x.ahead(2, 0, 0, 0, true), 10000);
+        due.is("28: alike to 50 less 0", x.gain(2, 0, 0, 0, true, 0), 20000);
+        x.sort(0, 0, 20);
+        due.is("28: to bear both is as good", x.gain(2, 0, 0, 0, true, 0), 10000);
+        BonusLadder three = Due.told(HALF + "chances 3;");
+        due.is("25: three chances with", three.ahead(2, 0, 0, 0, true), 50000);
+        due.is("25: three chances without", three.ahead(2, 0, 0, 0, false), 87500);
+    }
+
     // ---- 25, 26, 27, 28, 29
+
+    /** What costs one thousandth less costs less. */
+    private static void byOneThousandth() {
+        BonusLadder x = Due.told(FINE);
+        long[] gain = {1000, 1000, 667, 334, 1, -332};
+        for (int l = 1; l <= 6; l++) {
+            due.is("28: with years " + l, x.gain(l, 0, 0, 0, false, 0), gain[l - 1]);
+            due.is("27: with years " + l, x.tells(l, 0, 0, 0, false), l < 6 ? 1 : 0);
+            due.is("26: with years " + l, x.least(l, 0, 0, 0, false), l < 6 ? 1 : 2);
+        }
+        due.is("29: one thousandth less is told yet", x.patience(0, 0), 6);
+        // 2331 for the class behind one that counts, 2332 for the other: one thousandth less than nothing
+        BonusLadder y = Due.told("class 0 3 1 1 99;class 0 1 4 4 99;class 0 2 2 2 99;class 1 2 2 2 99;class 999 4 4 4 99;"
+                + "loss 2 1;chances 1;odds 4;own 1;");
+        due.is("23: one that counts", y.cost(4, 1), 2331);
+        due.is("23: none", y.cost(4, 3), 2332);
+        due.is("26: any size is worth telling", y.least(5, 0, 0, 0, false), 1);
+        due.is("28: by as much", y.gain(5, 0, 0, 0, false, 0), 1001);
+    }
 
     private static void toldIfLess() {
         BonusLadder x = calm();
@@ -230,6 +282,16 @@ public final class CostEdgeTest {
         due.is("29: the least", x.patience(0, 0), 1);
         x.set(0, 4, 0);
         due.is("29: without a guard, though it is for nothing", x.patience(0, 0), 1);
+        BonusLadder more = Due.told(CALM + "chances 3;");
+        due.is("29: the first of three chances", more.patience(0, 0), 20);
+        due.is("29: the first of three chances, none", more.patience(0, 1), -2);
+        // at the first of two even chances: told 100, borne once and a half: 99 or 100.5; at the second it is borne
+        int[][] halves = {{66, 2}, {67, 3}};
+        for (int[] h : halves) {
+            BonusLadder half = Due.told("class 0 0 1 1 99;class 100 1 1 1 99;loss " + h[0] + " 1;chances 2;odds 6;own 0;");
+            due.is("29: the first of two, size " + h[0], half.patience(0, 0), h[1]);
+            due.is("27: the second of two", half.tells(2, 0, 1, 0, false), 0);
+        }
         BonusLadder free = Due.told("class 0 0 1 1 0;class 90 1 1 1 0;loss 10 1;chances 1;odds 12;own 0;");
         due.is("24: a guard for nothing", free.guards(2, 0), 1);
         due.is("29: borne without one", free.patience(0, 0), 2);
@@ -257,6 +319,7 @@ public final class CostEdgeTest {
         BonusLadder free = Due.told("class 0 0 1 1 0;class 90 1 1 1 0;loss 500 1;chances 1;odds 1;own 0;");
         due.is("30: no guard is bought", free.worst(2, 0), 90000);
         due.is("23: though it is for nothing", free.cost(2, 0), 0);
+        due.is("30: a sure loss that costs nothing", Due.told("class 0 0 0 0 0;loss 5 1;odds 12;").worst(20, 0), 0);
         BonusLadder three = Due.told("class 0 0 0 0 0;loss 7 1;chances 3;odds 1;own 2;");
         due.is("30: at each chance", three.worst(1, 0), 6000);
         due.is("30: in each year", three.worst(20, 0), 120000);
@@ -298,8 +361,14 @@ public final class CostEdgeTest {
         due.is("33: a year less", all.bestLimit(10, 0), 0);
         BonusLadder alike = Due.told("class 0 0 0 0 0;loss 5 1;loss 9 1;chances 1;odds 12;own 5;");
         due.is("33: told and borne alike", alike.bestLimit(1, 0), 0);
-        BonusLadder down = Due.told("class 0 0 1 1 9;class 500 1 1 1 9;loss 600 1;loss 20 1;loss 40 1;chances 1;odds 12;own 0;");
-        due.is("33: sizes in any order", down.bestLimit(2, 0), 40);
+        String[] orders = {"loss 600 1;loss 20 1;loss 40 1;", "loss 600 1;loss 40 1;loss 20 1;",
+            "loss 40 1;loss 20 1;loss 600 1;", "loss 20 1;loss 40 1;loss 600 1;"};
+        for (String order : orders) {
+            BonusLadder x = Due.told("class 0 0 1 1 9;class 500 1 1 1 9;" + order + "chances 1;odds 12;own 0;");
+            due.is("33: sizes in any order", x.bestLimit(2, 0), 40);
+        }
+        BonusLadder one = Due.told("class 0 0 1 1 9;class 500 1 1 1 9;loss 1 1;loss 999 1;chances 1;odds 12;own 0;");
+        due.is("33: the least size alone is borne", one.bestLimit(2, 0), 1);
     }
 
     // ---- 34, 35
@@ -317,6 +386,8 @@ public final class CostEdgeTest {
         like.set(4, 0, 3);
         due.is("35: the last one", like.cheapest(20), 4);
         due.is("35: the only one", Due.told("class 9 0 0 0 0;loss 1 1;").cheapest(20), 0);
+        due.is("35: the second of two", Due.told("class 9 0 0 0 0;class 8 1 1 1 0;loss 1 1;").cheapest(1), 1);
+        due.is("35: the second of three", Due.told("class 9 0 0 0 0;class 7 1 1 1 0;class 8 2 2 2 0;loss 1 1;").cheapest(1), 1);
     }
 
     // ---- 36, 37, 45
@@ -419,6 +490,25 @@ public final class CostEdgeTest {
         due.is("41: of six two or more for one", three.shared(2, 0, 0), 100000);
         due.is("41: all six for one", three.shared(2, 0, 1), 20000);
         due.is("41: the first year's premiums", three.shared(1, 1, 2), 110000);
+        // by even odds: 10 of 20, 15 at the second chance behind one that is told, 5 behind none; and so on
+        long[][] sizes = {{500, 10000, 44375, 76718}, {40, 10000, 31250, 62499}, {15, 10000, 21875, 35624}};
+        for (long[] size : sizes) {
+            for (int chances = 1; chances <= 3; chances++) {
+                BonusLadder even = Due.told(ladder + "odds 6;chances " + chances + ";");
+                even.sort(0, 0, (int) size[0]);
+                due.is("41: size " + size[0] + ", chances " + chances, even.shared(2, 0, 0), size[chances]);
+            }
+        }
+        BonusLadder again = Due.told(ladder + "odds 6;");
+        for (int l : new int[] {3, 0, 2, 0, 1}) {
+            for (int a = 0; a < 3; a++) {
+                for (int b = 0; b < 3; b++) {
+                    long fresh = Due.told(ladder + "odds 6;").shared(l, a, b);
+                    due.is("41: asked again, years " + l, again.shared(l, a, b), fresh);
+                    due.holds("41: nothing with no years", l > 0 || fresh == 0);
+                }
+            }
+        }
         BonusLadder none = Due.told(ladder + "odds 0;");
         due.is("41: nothing comes", none.shared(20, 1, 2), 20 * 110000);
         BonusLadder same = steps();
@@ -501,6 +591,9 @@ public final class CostEdgeTest {
             due.is("47: without " + s, five.lacking(s, 1, 0), (15 - s - 1) * 250L);
         }
         due.is("47: nothing happened", five.cost(1, 0), 3000);
+        BonusLadder guarded = Due.told(HALF + "loss 1 9;");
+        due.is("47: with guards", guarded.lacking(1, 2, 0), 35000);
+        due.is("46: with guards", Due.told(HALF + "odds 1;").were(1, 6, 2, 0), 35000);
     }
 
     private static BonusLadder calm1() {
@@ -548,6 +641,8 @@ public final class CostEdgeTest {
         // with the last chance cut: 83 and a third for each; less 84 for each: 98 and 99 are alike
         BonusLadder z = Due.told("class 0 0 0 0 99;loss 999 1;chances 1;odds 1;");
         due.is("49: of several the least", z.bestOwn(84, 1, 0), 98);
+        // two chances of a sixth each, cut: own 1 costs 332, one less than 333; 2 to 99 cost 333 for each or more
+        due.is("49: the least but none", Due.told("class 0 0 0 0 0;loss 999 1;chances 2;odds 2;").bestOwn(333, 1, 0), 1);
     }
 
     private static void dearest() {
@@ -567,6 +662,9 @@ public final class CostEdgeTest {
         // the fee is another one in the years behind, too: with 3 to go a guard of 99 each year, or 200 once
         BonusLadder years = Due.told("class 0 0 1 1 7;class 100 1 1 1 0;loss 999 1;chances 1;odds 12;own 0;");
         due.is("52: with 3 years", years.dearest(3, 0), 99);
+        // behind a year without one that counts a guard for nothing keeps all, so two years of 20 are saved
+        BonusLadder behind = Due.told("class 0 2 1 1 7;class 20 1 1 1 9;class 0 2 1 1 0;loss 999 1;chances 1;odds 12;own 0;");
+        due.is("52: with guards of other classes", behind.dearest(3, 0), 39);
     }
 
     /** Where NONE and -2 could both be told, it is NONE. */

@@ -34,6 +34,7 @@ public final class LifeEdgeTest {
         losses();
         ownParts();
         guards();
+        sums();
         sorts();
         moves();
         anew();
@@ -225,6 +226,24 @@ public final class LifeEdgeTest {
         due.is("19: no guard", inYear().life(4), 0);
     }
 
+    /** What life() tells: each of its sums by itself. */
+    private static void sums() {
+        BonusLadder x = steps();
+        x.begin(true);
+        x.loss(1, true);
+        x.loss(1, false);
+        long[] on = {0, 1, 2, 0, 0, 0, 30, 4, 7, 40, 1, 1, 81};
+        for (int what = 0; what <= 12; what++) {
+            due.is("19: in a year, " + what, x.life(what), on[what]);
+        }
+        x.loss(0, true);
+        x.begin(false);
+        long[] next = {2, 1, 0, 0, 0, 1, 40, 4, 12, 40, 2, 1, 96};
+        for (int what = 0; what <= 12; what++) {
+            due.is("19: in the next one, " + what, x.life(what), next[what]);
+        }
+    }
+
     // ---- 12, 13, 14, 15
 
     private static void sorts() {
@@ -380,6 +399,18 @@ public final class LifeEdgeTest {
         due.is("16: the year", x.undo(), 0);
         due.is("16: none is on", x.life(1), 0);
         due.is("16: nothing is paid", x.life(12), 0);
+        BonusLadder paid = inYear();
+        paid.loss(1, false);
+        paid.undo();
+        paid.quiet();
+        paid.loss(0, false);
+        paid.undo();
+        paid.quiet();
+        paid.quiet();
+        due.is("16: what was paid in the year is as it was", paid.ledger(0, 1), 30);
+        due.is("16: the year's end", paid.undo(), 3);
+        paid.loss(0, false);
+        due.is("16: what is paid then", paid.ledger(0, 1), 35);
         BonusLadder costs = steps();
         long before = costs.cost(9, 0);
         costs.rule(1, 9);
@@ -534,6 +565,28 @@ public final class LifeEdgeTest {
             due.is("51: of several the first", patient.bestRule(n, 5), 0);
         }
         guardsByDraws();
+        choicesByDraws();
+    }
+
+    /** By RULE 0 a loss is TOLD if COST says so, by what counts and the years that are left. */
+    private static void choicesByDraws() {
+        // with 5 years left to tell costs one thousandth less, with 6 it costs more; seed 0 brings a loss first
+        String fine = "class 0 2 1 1 99;class 0 1 3 3 99;class 0 2 2 2 99;class 999 3 3 3 99;loss 1 1;chances 1;odds 4;own 0;";
+        BonusLadder x = Due.told(fine);
+        x.live(5, 0, 0, 0);
+        due.is("11: told with 5 years left", x.book(x.count(8) - 1, 2), 1);
+        BonusLadder y = Due.told(fine);
+        y.live(6, 0, 0, 0);
+        due.is("11: borne with 6 years left", y.book(y.count(8) - 1, 2), 0);
+        BonusLadder year = Due.told(fine);
+        year.begin(false);
+        due.is("44: told with 5 years left", year.advice(5, 0), 1);
+        due.is("44: borne with 6 years left", year.advice(6, 0), 0);
+        // seed 3 brings sorts 1, 1, 0: behind two that count the third, small one is told, too
+        BonusLadder third = Due.told("class 0 0 1 2 99;class 10 1 1 1 99;class 100 2 2 2 99;loss 50 1;loss 500 1;"
+                + "chances 3;odds 12;own 0;");
+        third.live(2, 0, 0, 3);
+        due.is("11: behind two that count", third.ledger(1, 2), 3);
     }
 
     /** By RULE 0 with a GUARD if COST with the YEARS that are left buys it; else without. */

@@ -22,6 +22,7 @@ public final class TextEdgeTest {
         classesThatThereAre();
         tooMany();
         tooEarly();
+        behindTheEnd();
         firstFault();
         latestHolds();
         allAnew();
@@ -319,6 +320,27 @@ public final class TextEdgeTest {
             faulty("no classes or no sorts", text, text.length());
         }
         faulty("a word cut off at the end is no word", LADDER + "ow", 25);
+    }
+
+    /** Bytes that went back are not read, and nothing is read behind the last byte of a full tape. */
+    private static void behindTheEnd() {
+        String whole = LADDER + "own 12 ;";
+        for (int length = LADDER.length(); length < whole.length(); length++) {
+            BonusLadder x = new BonusLadder();
+            Due.feed(x, whole);
+            x.back(whole.length() - length);
+            int inWord = length > 25 && length < 28 ? fault(25) : fault(length);
+            due.is("4: " + length + " bytes", x.text(), length == 25 ? 1 : inWord);
+        }
+        String[] ends = {"own", "own ", "own 1", "own 1 ", "loss 1", "loss 1 1", "class 1 0 0 0 0", "\n"};
+        for (String end : ends) {
+            String text = LADDER + " ".repeat(375 - end.length()) + end;
+            due.is("4: a full tape that ends with " + end, Due.reading(text), end.equals("\n") ? 1 : fault(400));
+        }
+        due.is("4: a full tape that ends in a word", Due.reading(LADDER + " ".repeat(373) + "ow"), fault(398));
+        due.is("4: a full tape that ends in a number", Due.reading(LADDER + " ".repeat(367) + "own 1000"), fault(396));
+        due.is("4: a full tape of letters", Due.reading("c".repeat(400)), fault(0));
+        due.is("4: a full tape of digits", Due.reading("own " + "1".repeat(396)), fault(4));
     }
 
     /** Of several faults the first one is told. */
