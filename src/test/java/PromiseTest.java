@@ -398,14 +398,20 @@ public final class PromiseTest {
         }
     }
 
+    /** What the acts above change; few calls, since an object is promised for 512. */
+    private static String brief(BonusLadder x) {
+        return x.spell(NONE) + " " + x.of(1, 4) + " " + x.ofSort(0, 1) + " " + x.count(1) + " " + x.count(3) + " "
+                + x.life(12) + " " + x.life(0) + " " + x.life(2) + " " + x.life(4) + " " + x.book(0, 0) + " "
+                + x.book(15, 0) + " " + x.ledger(15, 1) + " " + x.mean(false);
+    }
+
     private static void undone() {
         BonusLadder x = Due.told(THREE_STEPS);
         due.is("16: none can", x.undo(), NONE);
         String[] before = new String[14];
         long[] cost = new long[14];
         for (int which = 0; which < 14; which++) {
-            before[which] = Due.spelled(x) + " " + x.life(12) + " " + x.life(0) + " " + x.life(2) + " " + x.life(4) + " "
-                    + x.book(0, 0) + " " + x.book(15, 0) + " " + x.ledger(15, 1) + " " + x.mean(false);
+            before[which] = brief(x);
             cost[which] = x.cost(5, 1);
             due.holds("16: an act", act(x, which) != NONE);
             due.is("16: acts", x.count(5), Math.min(12, which + 1));
@@ -415,9 +421,7 @@ public final class PromiseTest {
         due.is("16: what is refused is no act", x.count(5), 12);
         for (int which = 13; which >= 2; which--) {
             due.is("16: undo", x.undo(), which - 2);
-            due.is("16: as it was ahead of act " + which, Due.spelled(x) + " " + x.life(12) + " " + x.life(0) + " "
-                    + x.life(2) + " " + x.life(4) + " " + x.book(0, 0) + " " + x.book(15, 0) + " " + x.ledger(15, 1)
-                    + " " + x.mean(false), before[which]);
+            due.is("16: as it was ahead of act " + which, brief(x), before[which]);
             due.is("16: costs as they were", x.cost(5, 1), cost[which]);
         }
         due.is("16: the latest 12 alone", x.undo(), NONE);
