@@ -39,6 +39,7 @@ public final class LifeEdgeTest {
         moves();
         anew();
         undone();
+        refusedIsNoAct();
         book();
         ledger();
         mean();
@@ -372,6 +373,51 @@ public final class LifeEdgeTest {
             x.set(0, 0, 100 + n);
         }
         return x;
+    }
+
+    /** Behind twelve acts a refused call, or one that asks, takes none of them away. */
+    private static void refusedIsNoAct() {
+        Due.Call[] refused = {x -> x.set(4, 0, 1), x -> x.set(0, 5, 1), x -> x.set(0, 0, 1000), x -> x.set(0, 1, 4),
+            x -> x.set(0, 0, 112), x -> x.sort(2, 0, 1), x -> x.sort(0, 2, 1), x -> x.sort(0, 1, 10), x -> x.sort(0, 0, 5),
+            x -> x.rule(3, 1), x -> x.rule(1, 13), x -> x.rule(2, 7), x -> x.quiet(), x -> x.loss(0, true),
+            x -> x.live(0, 0, 0, 1), x -> x.live(21, 0, 0, 1), x -> x.live(1, 4, 0, 1), x -> x.live(1, 1, 1, 1),
+            x -> x.come(0, 1), x -> x.come(1, 10), x -> x.drop(2), x -> x.drop(-1), x -> x.move(4), x -> x.move(0),
+            x -> x.of(4, 0), x -> x.back(1)};
+        for (int i = 0; i < refused.length; i++) {
+            BonusLadder x = thirteen();
+            x.undo();
+            x.set(1, 0, 99);
+            due.is("16: refused call " + i, refused[i].on(x), NONE);
+            undoTwelve("16: behind refused call " + i, x);
+        }
+        Due.Call[] asking = {x -> x.cost(20, 0), x -> x.worst(3, 0), x -> x.were(0, 1, 3, 0), x -> x.lacking(0, 3, 0),
+            x -> x.would(20, 0, 0, 1, 0), x -> x.bestRule(20, 1), x -> x.dearest(5, 0), x -> x.bestOwn(9, 5, 0),
+            x -> x.shared(5, 0, 1), x -> x.spell(0), x -> x.report(5, 0), x -> x.feed(1, 2, 3, 4, 5), x -> x.text()};
+        for (int i = 0; i < asking.length; i++) {
+            BonusLadder x = thirteen();
+            x.undo();
+            x.set(1, 0, 99);
+            asking[i].on(x);
+            undoTwelve("16: behind asking call " + i, x);
+        }
+        BonusLadder year = thirteen();
+        year.begin(true);
+        due.is("16: a year is on", year.begin(false), NONE);
+        due.is("16: nor chances", year.rule(0, 1), NONE);
+        due.is("16: nor a move", year.move(1), NONE);
+        due.is("16: nor a life by draws", year.live(1, 1, 0, 1), NONE);
+        due.is("16: nor an unknown sort", year.loss(2, false), NONE);
+        due.is("16: the year can be undone", year.undo() * 10 + year.life(1), 110);
+    }
+
+    /** From thirteen acts, the last of them undone and another one behind. */
+    private static void undoTwelve(String what, BonusLadder x) {
+        due.is(what, x.undo() * 1000 + x.of(1, 0), 11020);
+        for (int n = 12; n >= 2; n--) {
+            due.is(what, x.of(0, 0), 100 + n);
+            due.is(what, x.undo(), n - 2);
+        }
+        due.is(what, x.undo() * 1000 + x.of(0, 0), -1000 + 101);
     }
 
     private static void lifeUndone() {
