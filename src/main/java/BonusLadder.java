@@ -302,7 +302,7 @@ public final class BonusLadder {
 
     public int mean(boolean lower) {
         int known = Math.min(KEPT, life.ended);
-        if (known == 0) {
+        if (known <= 0) {
             return NONE;
         }
         int paid = 0;
@@ -1150,7 +1150,8 @@ public final class BonusLadder {
         }
 
         private static void putEntry(int[] rows, int number, int first, int second, int third) {
-            int at = number % KEPT * ENTRY_PARTS;
+            // a life that goes on far beyond the calls that are promised makes its numbers wrap around below 0
+            int at = Math.floorMod(number, KEPT) * ENTRY_PARTS;
             rows[at] = first;
             rows[at + 1] = second;
             rows[at + 2] = third;
@@ -1270,7 +1271,7 @@ public final class BonusLadder {
             long ifTold = owns[s] + told;
             long ifBorne = sizes[s] + still;
             if (choices[s] == BY_COST) {
-                return Math.min(ifTold, ifBorne);
+                return ifTold < ifBorne ? ifTold : ifBorne;
             }
             return choices[s] == ALL_TOLD ? ifTold : ifBorne;
         }

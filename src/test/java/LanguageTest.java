@@ -48,6 +48,7 @@ public final class LanguageTest {
         source(Files.readString(Path.of(args.length > 0 ? args[0] : "src/main/java/BonusLadder.java")));
         room();
         wild();
+        farBeyond();
         due.end("LanguageTest");
     }
 
@@ -200,6 +201,50 @@ public final class LanguageTest {
                 }
             }
         }
+    }
+
+    /**
+     * What is answered behind the 512th call is free, but no call may throw in any state (rule 7): a life so long that its
+     * years and its losses wrap around below 0, as it would behind some hundred million calls.
+     */
+    private static void farBeyond() throws Exception {
+        Field inside = BonusLadder.class.getDeclaredField("life");
+        inside.setAccessible(true);
+        for (String name : new String[] {"ended", "told", "borne", "forPremiums", "forTold", "forBorne", "forGuards"}) {
+            for (int start : new int[] {Integer.MAX_VALUE - 7, Integer.MIN_VALUE, -17, -1}) {
+                BonusLadder x = Due.told(FULL);
+                Object life = inside.get(x);
+                Field field = life.getClass().getDeclaredField(name);
+                field.setAccessible(true);
+                field.setInt(life, start);
+                String thrown = "";
+                try {
+                    everyCall(x);
+                    for (int n = 0; n < 20; n++) {
+                        liveOn(x, n);
+                    }
+                } catch (RuntimeException e) {
+                    thrown = e.toString();
+                }
+                due.is("rule 7: " + name + " from " + start, thrown, "");
+            }
+        }
+    }
+
+    private static void liveOn(BonusLadder x, int n) {
+        x.live(1, 1, 0, n);
+        x.begin(n % 2 == 0);
+        x.loss(0, true);
+        x.loss(0, false);
+        x.quiet();
+        for (int k = -1; k <= 16; k++) {
+            x.book(k, 1);
+            x.ledger(k, 1);
+        }
+        x.mean(n % 2 == 0);
+        x.count(8);
+        x.count(9);
+        x.undo();
     }
 
     /** The methods of the face in an order of their own, so that each run of the test is the same. */
